@@ -1,7 +1,8 @@
 /** Long mixed runs of calls, hits among them, on a shielded and on a plain machine: all answers must be the same. */
 public final class AgainstPlainMachineTest {
     private static final int OBJECTS = 4000;
-    private static final int CALLS = 512;
+    /** Below 512, as some rounds make two calls. */
+    private static final int CALLS = 400;
     private static long state = 1;
 
     public static void main(String[] args) {

@@ -1,4 +1,7 @@
-/** Each promise of the document: ordinary inputs, the edges that it names, and wrong inputs. */
+/**
+ * Each promise of the document: ordinary inputs, the edges that it names, and wrong inputs.
+ * No object gets more than 512 calls, since what comes behind them is free.
+ */
 public final class PromisesTest {
     private static final int STOP = 0;
     private static final int SET = 1;
@@ -107,11 +110,14 @@ public final class PromisesTest {
     }
 
     private static void promise3() {
-        ShieldedMachine x = new ShieldedMachine();
         for (int v = 0; v < 256; v++) {
-            int cell = v % 16;
-            due("3: setData", x.setData(cell, v), true);
-            due("3: data", x.data(cell), v);
+            ShieldedMachine y = new ShieldedMachine();
+            due("3: setData", y.setData(v % 16, v), true);
+            due("3: data", y.data(v % 16), v);
+        }
+        ShieldedMachine x = new ShieldedMachine();
+        for (int cell = 0; cell < 16; cell++) {
+            x.setData(cell, 240 + cell);
         }
         for (int cell = 0; cell < 16; cell++) {
             due("3: each cell has its own", x.data(cell), 240 + cell);
@@ -300,14 +306,16 @@ public final class PromisesTest {
     }
 
     private static void promise7() {
-        ShieldedMachine x = machine(JUMP, 0, 21);
-        x.set(21, JUMP, 0, 21);
-        x.run(1);
+        ShieldedMachine w = new ShieldedMachine();
         int[][] wrong = {{-1, 1}, {3, 1}, {LOW, 1}, {HIGH, 1}, {0, 0}, {0, 32}, {0, -1}, {0, LOW}, {0, HIGH}};
         for (int[] each : wrong) {
-            due("7: wrong hit", x.hitPlace(each[0], each[1]), false);
+            due("7: wrong hit", w.hitPlace(each[0], each[1]), false);
         }
+        due("7: the wrong ones were no hits", w.hitPlace(2, 1), true);
         for (int mask = 1; mask < 32; mask++) {
+            ShieldedMachine x = machine(JUMP, 0, 21);
+            x.set(21, JUMP, 0, 21);
+            x.run(1);
             for (int copy = 0; copy < 3; copy++) {
                 due("7: hit", x.hitPlace(copy, mask), true);
                 due("7: other copy", x.hitPlace((copy + 1) % 3, mask), false);
@@ -393,15 +401,19 @@ public final class PromisesTest {
         }
         due("9: nothing is spoiled", x.spoiled(), 0);
         for (int v = 0; v < 256; v++) {
+            ShieldedMachine y = new ShieldedMachine();
             int cell = v % 16;
             for (int bit = 0; bit < 13; bit++) {
-                due("9: setData", x.setData(cell, v), true);
-                due("9: hit", x.hitData(cell, bit), true);
-                due("9: spoiled, same bit", x.hitData(cell, bit), false);
-                due("9: spoiled, other bit", x.hitData(cell, (bit + 1) % 13), false);
-                due("9: value", x.data(cell), v);
-                due("9: data does not repair", x.hitData(cell, bit), false);
+                due("9: setData", y.setData(cell, v), true);
+                due("9: hit", y.hitData(cell, bit), true);
+                due("9: spoiled, same bit", y.hitData(cell, bit), false);
+                due("9: spoiled, other bit", y.hitData(cell, (bit + 1) % 13), false);
+                due("9: value", y.data(cell), v);
+                due("9: data does not repair", y.hitData(cell, bit), false);
             }
+        }
+        for (int cell = 0; cell < 16; cell++) {
+            x.hitData(cell, cell % 13);
         }
         due("9: all are spoiled", x.spoiled(), 16);
         x.reset();
@@ -427,15 +439,17 @@ public final class PromisesTest {
         }
         due("10: nothing is spoiled", x.spoiled(), 0);
         for (int bit = 0; bit < 22; bit++) {
+            ShieldedMachine y = new ShieldedMachine();
             for (int place = 0; place < 32; place++) {
-                due("10: hit", x.hitProgram(place, bit), true);
-                due("10: spoiled, same bit", x.hitProgram(place, bit), false);
-                due("10: spoiled, other bit", x.hitProgram(place, (bit + 1) % 22), false);
-                due("10: spoiled", x.spoiled(), place + 1);
+                y.set(place, place % 14, place % 4, place * 8);
+                due("10: hit", y.hitProgram(place, bit), true);
+                due("10: spoiled, same bit", y.hitProgram(place, bit), false);
+                due("10: spoiled, other bit", y.hitProgram(place, (bit + 1) % 22), false);
+                due("10: spoiled", y.spoiled(), place + 1);
             }
             for (int place = 0; place < 32; place++) {
-                x.set(place, place % 14, place % 4, place * 8);
-                due("10: only this one is repaired", x.spoiled(), 31 - place);
+                y.set(place, place % 14, place % 4, place * 8);
+                due("10: only this one is repaired", y.spoiled(), 31 - place);
             }
         }
         for (int n = 0; n < 256; n++) {
@@ -511,18 +525,11 @@ public final class PromisesTest {
 
     /** What is repaired by being set, done, read or written, and that nothing else is. */
     private static void promise17Touched() {
-        int[][] touching = {{LOAD, 5}, {STORE, 5}, {FETCH, 2}, {KEEP, 2}};
         for (int op = 0; op <= 13; op++) {
-            for (int k = 0; k < 32; k++) {
-                boolean touches = false;
-                int n = 5;
-                for (int[] each : touching) {
-                    if (each[0] == op) {
-                        touches = true;
-                        n = each[1];
-                    }
-                }
-                touchOnce(op, n, k, touches);
+            for (int cell = 0; cell < 16; cell++) {
+                boolean direct = op == LOAD || op == STORE;
+                boolean throughRegister = op == FETCH || op == KEEP;
+                touchOnce(op, direct ? 16 + cell : 2, cell, direct || throughRegister);
             }
         }
         ShieldedMachine x = new ShieldedMachine();
@@ -543,26 +550,20 @@ public final class PromisesTest {
         due("17: run 0 repairs nothing", x.spoiled(), 32);
     }
 
-    /** The step number k + 1 is the operation, at place 31, with register 2 holding 21; all cells are spoiled. */
-    private static void touchOnce(int op, int n, int k, boolean touches) {
-        ShieldedMachine x = machine(SET, 2, 21, JUMP, 0, 1);
-        x.run(1 + k);
-        x.set(1, JUMP, 0, 31);
+    /** Step number 2 is the operation on register 2, which names the cell, while all cells are spoiled. */
+    private static void touchOnce(int op, int n, int cell, boolean touches) {
+        ShieldedMachine x = machine(SET, 2, 32 + cell, JUMP, 0, 31);
         x.set(31, op, 2, n);
-        x.run(k < 2 ? 0 : 1);
-        if (k < 2) {
-            return;
+        x.run(2);
+        for (int each = 0; each < 16; each++) {
+            x.hitData(each, (each + cell) % 13);
         }
-        for (int cell = 0; cell < 16; cell++) {
-            x.hitData(cell, (cell + k) % 13);
-        }
-        x.hitProgram(31, k % 22);
-        x.hitProgram(1, k % 22);
-        int inTurn = k + 2;
+        x.hitProgram(1, cell);
+        x.hitProgram(31, cell);
         due("17: the step is done", x.run(1), 1);
-        for (int cell = 0; cell < 16; cell++) {
-            boolean repaired = (touches && cell == 5) || inTurn - 32 == cell;
-            due("17: cell after op " + op, x.hitData(cell, 0), repaired);
+        due("17: spoiled after op " + op, x.spoiled(), touches ? 16 : 17);
+        for (int each = 0; each < 16; each++) {
+            due("17: cell after op " + op, x.hitData(each, 0), touches && each == cell);
         }
         due("17: the step that is done", x.hitProgram(31, 0), true);
         due("17: not another one", x.hitProgram(1, 0), false);
