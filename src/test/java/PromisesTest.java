@@ -2,25 +2,7 @@
  * Each promise of the document: ordinary inputs, the edges that it names, and wrong inputs.
  * No object gets more than 512 calls, since what comes behind them is free.
  */
-public final class PromisesTest {
-    private static final int STOP = 0;
-    private static final int SET = 1;
-    private static final int LOAD = 2;
-    private static final int STORE = 3;
-    private static final int ADD = 4;
-    private static final int SUB = 5;
-    private static final int AND = 6;
-    private static final int XOR = 7;
-    private static final int HALF = 8;
-    private static final int JUMP = 9;
-    private static final int ZERO = 10;
-    private static final int OUT = 11;
-    private static final int FETCH = 12;
-    private static final int KEEP = 13;
-    private static final int BAD = ShieldedMachine.BAD;
-    private static final int LOW = Integer.MIN_VALUE;
-    private static final int HIGH = Integer.MAX_VALUE;
-
+public final class PromisesTest extends Steps {
     public static void main(String[] args) {
         promise1();
         promise2();
@@ -40,23 +22,6 @@ public final class PromisesTest {
         promise17InTurn();
         promise18();
         Check.end();
-    }
-
-    private static void due(String what, int got, int want) {
-        Check.due(what, got, want);
-    }
-
-    private static void due(String what, boolean got, boolean want) {
-        Check.due(what, got, want);
-    }
-
-    /** A machine with the given steps (op, r, n each) at its places from 0 on. */
-    private static ShieldedMachine machine(int... steps) {
-        ShieldedMachine x = new ShieldedMachine();
-        for (int i = 0; i * 3 < steps.length; i++) {
-            due("set of step " + i, x.set(i, steps[i * 3], steps[i * 3 + 1], steps[i * 3 + 2]), true);
-        }
-        return x;
     }
 
     private static void promise1() {
