@@ -403,8 +403,10 @@ public final class BoundaryCallsTest extends Steps {
     static void promise6CopyOutOfRange() {
         int[] wrong = {-1, 3, 4, -3, LOW, HIGH};
         for (int each : wrong) {
-            refusedRegisterHit(0, each, 1);
-            refusedRegisterHit(3, each, 255);
+            for (int r = 0; r < 4; r++) {
+                refusedRegisterHit(r, each, 1);
+                refusedRegisterHit(r, each, 255);
+            }
         }
     }
 
@@ -412,8 +414,10 @@ public final class BoundaryCallsTest extends Steps {
     static void promise6MaskOutOfRange() {
         int[] wrong = {0, 256, 257, 511, -1, -255, LOW, HIGH};
         for (int each : wrong) {
-            refusedRegisterHit(0, 0, each);
-            refusedRegisterHit(3, 2, each);
+            for (int r = 0; r < 4; r++) {
+                refusedRegisterHit(r, 0, each);
+                refusedRegisterHit(r, 2, each);
+            }
         }
     }
 
@@ -439,16 +443,18 @@ public final class BoundaryCallsTest extends Steps {
 
     /** "another copy": the same one is hit as often as one likes, even back to what it was, and stays the one. */
     static void promise6SameCopyAgain() {
-        ShieldedMachine x = readyToAdd();
-        String before = looks(x);
-        for (int mask = 1; mask < 256; mask++) {
-            due("same copy", x.hitRegister(2, 1, mask), true);
+        for (int r = 0; r < 4; r++) {
+            ShieldedMachine x = readyToAdd();
+            String before = looks(x);
+            for (int mask = 1; mask < 256; mask++) {
+                due("same copy", x.hitRegister(r, 1, mask), true);
+            }
+            due("nothing is seen", looks(x), before);
+            ShieldedMachine y = readyToAdd();
+            due("hit", y.hitRegister(r, 1, 255), true);
+            due("turned back", y.hitRegister(r, 1, 255), true);
+            due("another copy", y.hitRegister(r, 0, 1), false);
         }
-        due("nothing is seen", looks(x), before);
-        ShieldedMachine y = readyToAdd();
-        due("hit", y.hitRegister(2, 1, 255), true);
-        due("turned back", y.hitRegister(2, 1, 255), true);
-        due("another copy", y.hitRegister(2, 0, 1), false);
     }
 
     /** "of this register": the other ones, the place and the work have hits of their own. */
